@@ -28,6 +28,7 @@ public final class ChangeTests {
         Kit.due("20 no winner", x.winner(1), -1);
         Kit.due("20 its rank", x.library(0, 2), -1);
         Kit.due("20 the rank of the next one", x.library(1, 2), 0);
+        Kit.due("20 the rank of the youngest one", x.library(2, 2), 1);
         Kit.due("20 its offer stays", x.offer(0, 1), -2);
         Kit.due("20 its preferences stay", x.library(2, 4), 2);
         Kit.due("20 unload of the only candidate for x", x.unload(1), 1);
@@ -60,6 +61,22 @@ public final class ChangeTests {
         x.unload(2);
         Kit.due("21 the first one that is loaded", x.reload(1), 0);
         Kit.due("21 its rank", x.library(1, 2), 0);
+        ages();
+    }
+
+    private static void ages() {
+        LinkElection x = Kit.made(TEXT);
+        x.unload(1);
+        x.reload(1);
+        Kit.due("21 the oldest one stays so", x.library(0, 2), 0);
+        Kit.due("21 the youngest one now", x.library(2, 2), 1);
+        Kit.due("21 the youngest one then", x.library(1, 2), 2);
+        x.unload(0);
+        x.reload(0);
+        Kit.due("20 a middle one's rank", x.library(1, 2), 1);
+        x.unload(1);
+        Kit.due("20 an older one keeps its rank", x.library(2, 2), 0);
+        Kit.due("20 a younger one comes nearer", x.library(0, 2), 1);
     }
 
     private static void promise20And21NeedState() {

@@ -155,6 +155,8 @@ public final class QueryTests {
         x.offerValue(2, 0, 1);
         x.offerValue(3, 0, 1);
         Kit.due("14 of four", x.margin(0), 80);
+        x.setTrust(1, 900);
+        Kit.due("14 the first library is the second one", x.margin(0), 800);
     }
 
     private static void promise15() {
@@ -179,6 +181,10 @@ public final class QueryTests {
         x.setTrust(0, 3);
         x.setKeeps(1, false);
         Kit.due("15 does not keep", x.binding(1, 0), 0);
+        x = Kit.made("link;name n;library a 670;library b 329 keeps;offer a n 1;offer b n 2;share 33;");
+        Kit.due("15 little less than the share", x.binding(1, 0), 0);
+        x.setTrust(1, 330);
+        Kit.due("15 exactly the share of 1000", x.binding(1, 0), 1);
         x = Kit.made("link;name n;library a 3;library b 0 keeps;offer a n 1;offer b n 2;share 0;");
         Kit.due("15 a share of 0", x.binding(1, 0), 1);
         x.setShare(1);
@@ -200,10 +206,16 @@ public final class QueryTests {
         Kit.due("16 b again", x.minority(0), 1);
         x.unload(1);
         Kit.due("16 loaded ones only", x.minority(0), 0);
+        x.reload(1);
+        x.setTrust(1, 300);
+        x.setKeeps(0, true);
+        x.setShare(5);
+        Kit.due("16 the first library", x.minority(0), 1);
     }
 
     private static void promise17And18() {
         LinkElection x = Kit.made(TEXT + "share 45;");
+        Kit.due("18 steps without a call before it", x.steps(0, 1), 2);
         calls(x, 0, 0, 1, 1);
         calls(x, 1, 0, 2, 1);
         calls(x, 0, 1, 1, 2);
@@ -235,6 +247,7 @@ public final class QueryTests {
     private static void calls(LinkElection x, int library, int name, int result, int steps) {
         Kit.due("17 call(" + library + ", " + name + ")", x.call(library, name), result);
         Kit.due("18 steps(" + library + ", " + name + ")", x.steps(library, name), steps);
+        Kit.due("17 call(" + library + ", " + name + ") again", x.call(library, name), result);
     }
 
     /** Twelve names in a ring, each one forwarded by its only candidate. */
