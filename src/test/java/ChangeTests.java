@@ -15,6 +15,7 @@ public final class ChangeTests {
         promise25();
         promise26();
         promise27();
+        allLibrariesAndNames();
         promise28Each();
         promise28Depth();
         promise28Failures();
@@ -200,6 +201,35 @@ public final class ChangeTests {
         Kit.due("27 that share", empty.share(), 3);
         Kit.due("27 it is a change", empty.undo(), 0);
         Kit.due("27 undone", empty.share(), 50);
+    }
+
+    /** The largest object: eight libraries, twelve names, each one offered by all. */
+    private static void allLibrariesAndNames() {
+        StringBuilder text = new StringBuilder("link;share 13;");
+        for (char letter = 'a'; letter <= 'l'; letter++) {
+            text.append("name ").append(letter).append(';');
+        }
+        for (char letter = 'a'; letter <= 'h'; letter++) {
+            text.append("library ").append(letter).append(" 1 keeps;");
+        }
+        LinkElection x = Kit.made(text.toString());
+        for (int name = 0; name < 12; name++) {
+            for (int library = 0; library < 8; library++) {
+                Kit.due("22 the oldest one wins", x.offerValue(library, name, library), 0);
+            }
+            Kit.due("10 all are candidates", x.candidates(name), 8);
+            Kit.due("16 the share is too large", x.minority(name), 0);
+            Kit.due("19 all bind the winner's", x.users(0, name), 8);
+        }
+        Kit.due("27 all but the winner keep their choice", x.setShare(12), 84);
+        Kit.due("16 all but the winner", x.minority(11), 7);
+        Kit.due("19 its own", x.users(7, 11), 1);
+        Kit.due("26 one gives it up", x.setKeeps(7, false), 12);
+        Kit.due("20 the winner goes", x.unload(0), 12);
+        Kit.due("21 the winner does not come back", x.reload(0), 0);
+        Kit.due("21 the youngest of all", x.library(0, 2), 7);
+        Kit.due("19 two have the new winner", x.users(1, 11), 2);
+        Kit.due("14 all are equal", x.margin(11), 0);
     }
 
     private static void promise28Each() {

@@ -137,6 +137,28 @@ public final class SetupTests {
             filled.append(' ');
         }
         Kit.due("3 a text of 800 bytes", Kit.load(x, filled.toString()), 0);
+        fullUntil(filled, "name abc", 800);
+        fullUntil(filled, "share 50", 800);
+        fullUntil(filled, "share 50 ", 800);
+        fullUntil(filled, "share 50 5", 799);
+        endsBeforeOldBytes();
+    }
+
+    /** A text of 800 bytes that ends too early, or wrongly, with these bytes. */
+    private static void fullUntil(StringBuilder filled, String end, int offset) {
+        fails(filled.substring(0, 800 - end.length()) + end, -2, offset);
+    }
+
+    /** What stood behind the length in an earlier text must not be read. */
+    private static void endsBeforeOldBytes() {
+        LinkElection x = Kit.made("link;name abc;");
+        Kit.due("3 a word ends at the length", Kit.load(x, "link;name abcdefghi"), -2);
+        Kit.due("3 its offset", x.errorOffset(), 10);
+        Kit.due("3 a word of 8 letters ends at the length", Kit.load(x, "link;name abcdefgh"), -2);
+        Kit.due("3 the end", x.errorOffset(), 18);
+        Kit.due("3 a number", Kit.load(x, "link;share 1000"), -3);
+        Kit.due("3 a number ends at the length", Kit.load(x, "link;share 100"), -2);
+        Kit.due("3 the end again", x.errorOffset(), 14);
     }
 
     private static void promise3SyntaxErrors() {
