@@ -70,6 +70,31 @@ final class Kit {
         return x;
     }
 
+    /** All that the methods tell of the data: 72 calls for three libraries and two names. */
+    static String state(LinkElection x) {
+        int libraries = x.libraries();
+        int names = x.names();
+        StringBuilder told = new StringBuilder();
+        told.append(libraries).append(' ').append(names).append(' ').append(x.share()).append(' ').append(x.checksum());
+        for (int name = 0; name < names; name++) {
+            told.append('|').append(x.candidates(name)).append(' ').append(x.winner(name)).append(' ');
+            told.append(x.margin(name)).append(' ').append(x.minority(name));
+        }
+        for (int library = 0; library < libraries; library++) {
+            told.append('|');
+            for (int what = 0; what < 6; what++) {
+                told.append(x.library(library, what)).append(' ');
+            }
+            for (int name = 0; name < names; name++) {
+                told.append('(').append(x.offer(library, name)).append(' ').append(x.vote(library, name)).append(' ');
+                told.append(x.support(library, name)).append(' ').append(x.binding(library, name)).append(' ');
+                told.append(x.call(library, name)).append(' ').append(x.steps(library, name)).append(' ');
+                told.append(x.users(library, name)).append(')');
+            }
+        }
+        return told.toString();
+    }
+
     static void end(String test) {
         System.out.println(test + ": " + (wrong == 0 ? "all answers are as due" : wrong + " answers are not as due"));
         if (wrong != 0) {
