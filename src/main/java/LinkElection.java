@@ -785,12 +785,14 @@ public final class LinkElection {
                 position++;
             }
             start = position;
+            int letters = runOf('a', 'z');
+            int digits = runOf('0', '9');
             if (position >= length) {
                 kind = END;
-            } else if (isLetterAt(position)) {
-                takeWord();
-            } else if (isDigitAt(position)) {
-                takeNumber();
+            } else if (letters > 0) {
+                takeWord(letters);
+            } else if (digits > 0) {
+                takeNumber(digits);
             } else {
                 kind = SIGN;
                 sign = text[position];
@@ -798,30 +800,31 @@ public final class LinkElection {
             }
         }
 
-        private void takeWord() {
+        /** How many bytes from the lowest to the highest one follow one another here. */
+        private int runOf(char lowest, char highest) {
+            int end = position;
+            while (end < length && text[end] >= lowest && text[end] <= highest) {
+                end++;
+            }
+            return end - position;
+        }
+
+        private void takeWord(int letters) {
+            kind = letters <= MAX_LETTERS ? WORD : LONG_RUN;
             word = 0;
-            while (position < length && isLetterAt(position)) {
+            for (int i = 0; i < letters && position < length; i++) {
                 word = word << 8 | text[position];
                 position++;
             }
-            kind = position - start <= MAX_LETTERS ? WORD : LONG_RUN;
         }
 
-        private void takeNumber() {
+        private void takeNumber(int digits) {
+            kind = NUMBER;
             number = 0;
-            while (position < length && isDigitAt(position)) {
+            for (int i = 0; i < digits && position < length; i++) {
                 number = Math.min(HUGE, number * 10 + (text[position] - '0'));
                 position++;
             }
-            kind = NUMBER;
-        }
-
-        private boolean isLetterAt(int place) {
-            return text[place] >= 'a' && text[place] <= 'z';
-        }
-
-        private boolean isDigitAt(int place) {
-            return text[place] >= '0' && text[place] <= '9';
         }
 
         private boolean isSign(char wanted) {

@@ -37,6 +37,7 @@ public final class MethodEdgeTests {
         marginAgainstTheSecond();
         minorityOfNoneAndMost();
         usersOfNoneAndAll();
+        stepsAlone();
         callOfOneNotLoaded();
         unloadCounts();
         unloadUntilNoneIsLeft();
@@ -227,6 +228,10 @@ public final class MethodEdgeTests {
         Kit.due("no keeping, no preferences, no weight of before", x.binding(1, 0), 0);
         Kit.load(x, "link;");
         Kit.dueText("and of an empty one", Kit.state(x), EMPTY);
+        x = Kit.made("link;name n;library a 1 keeps;library b 1 keeps;offer a n 1;prefer a b;");
+        Kit.load(x, "link;name n;library a 1;library b 1;");
+        Kit.dueText("no keeping, offer or preference is left", Kit.state(x),
+            Kit.state(Kit.made("link;name n;library a 1;library b 1;")));
     }
 
     /** "The error found by the latest call of load that did not throw; -1 if it found none or if there was no such call." */
@@ -380,6 +385,12 @@ public final class MethodEdgeTests {
             }
         }
         Kit.due("nobody is loaded", x.minority(0), 0);
+        for (int library = 7; library >= 0; library--) {
+            x.reload(library);
+        }
+        Kit.due("all but the winner, which is the last one", x.minority(0), 7);
+        x.setKeeps(0, false);
+        Kit.due("all but the winner and the first one", x.minority(0), 6);
     }
 
     /** "The number of loaded libraries whose binding for the name it is": 0 to 8. */
@@ -400,6 +411,16 @@ public final class MethodEdgeTests {
         x.unload(1);
         x.unload(7);
         Kit.due("one that is not loaded", x.users(7, 0), 0);
+    }
+
+    /** "Calls a name; nothing changes": steps needs no call before it, and tells nothing of another one. */
+    private static void stepsAlone() {
+        LinkElection x = Kit.made(TEXT);
+        Kit.due("steps, no call before it", x.steps(1, 1), 2);
+        Kit.due("call of another name", x.call(1, 0), 2);
+        Kit.due("steps of the first name", x.steps(1, 1), 2);
+        Kit.due("steps of the other name", x.steps(1, 0), 1);
+        Kit.due("call", x.call(1, 1), 2);
     }
 
     /** "-1 if the call is lost or the library is not loaded", "0 if the library is not loaded". */

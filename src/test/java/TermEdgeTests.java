@@ -34,6 +34,7 @@ public final class TermEdgeTests {
         oldestOfSeveral();
         keepsAtLeastTheShare();
         shareOfAllCandidates();
+        shareMissedByLittle();
         shareOfTheGreatestSums();
         shareOfNothing();
         shareAt0And100();
@@ -147,6 +148,9 @@ public final class TermEdgeTests {
         x.reload(3);
         x.reload(0);
         ranks("with all again", x, 7, 0, 1, 6, 2, 3, 4, 5);
+        x.unload(7);
+        ranks("without one that is older than the first", x, 6, 0, 1, 5, 2, 3, 4, -1);
+        x.reload(7);
         for (int library = 0; library < 8; library++) {
             x.unload(library);
         }
@@ -290,6 +294,10 @@ public final class TermEdgeTests {
         Kit.due("none is loaded", x.library(1, 5), 1);
         x.reload(4);
         Kit.due("again", x.library(0, 5), 8);
+        x = Kit.made("link;library a 1;library b 1;prefer a b;weight friends+1;");
+        Kit.due("the first library is a friend", x.library(1, 5), 2);
+        x.unload(0);
+        Kit.due("and then none", x.library(1, 5), 1);
     }
 
     /** "Division by 0 gives 0." */
@@ -413,6 +421,16 @@ public final class TermEdgeTests {
         Kit.due("10 of 41", x.binding(1, 0), 0);
         x.unload(2);
         Kit.due("10 of 30, one that abstains does not count", x.binding(1, 0), 1);
+    }
+
+    /** "At least": as near to the share as the numbers allow. */
+    private static void shareMissedByLittle() {
+        LinkElection x = Kit.made("link;name n;library a 671;library b 329 keeps;offer a n 1;offer b n 1;share 33;");
+        Kit.due("329 of 1000 are less than 33 of 100", x.binding(1, 0), 0);
+        x.setTrust(0, 667);
+        Kit.due("329 of 996 are more", x.binding(1, 0), 1);
+        x.setTrust(0, 668);
+        Kit.due("329 of 997 are less by one hundredth", x.binding(1, 0), 0);
     }
 
     /** The same with the greatest numbers there are. */
