@@ -6,9 +6,13 @@ public final class QueryTests {
         + "prefer d c;";
     private static final int MIN = Integer.MIN_VALUE;
     private static final int MAX = Integer.MAX_VALUE;
+    private static final int CALL = 17;
+    private static final int STEPS = 18;
 
     public static void main(String[] args) {
-        promise5To7();
+        promise5();
+        promise6();
+        promise7();
         promise8();
         promise9();
         promise10();
@@ -19,8 +23,8 @@ public final class QueryTests {
         promise15();
         promise15Keeps();
         promise16();
-        promise17And18();
-        promise17And18Longest();
+        promise17();
+        promise18();
         promise19();
         promise29();
         outOfBounds();
@@ -28,19 +32,53 @@ public final class QueryTests {
         Kit.end("QueryTests");
     }
 
-    private static void promise5To7() {
+    private static void promise5() {
+        Kit.due("5 of a new object", new LinkElection().libraries(), 0);
         LinkElection x = Kit.made(TEXT);
-        Kit.due("5 libraries", x.libraries(), 4);
-        Kit.due("6 names", x.names(), 3);
-        Kit.due("7 share", x.share(), 50);
+        Kit.due("5 of a text", x.libraries(), 4);
         x.unload(1);
-        Kit.due("5 libraries, one not loaded", x.libraries(), 4);
-        x.setShare(100);
-        Kit.due("7 share that was set", x.share(), 100);
-        x = Kit.made("link;share 0;");
-        Kit.due("7 share that was told", x.share(), 0);
+        Kit.due("5 one is not loaded", x.libraries(), 4);
+        Kit.load(x, "link;library a 1;library");
+        Kit.due("5 behind an error", x.libraries(), 4);
+        Kit.load(x, "link;name q;library a 1;");
+        Kit.due("5 of the next text", x.libraries(), 1);
+        Kit.load(x, "link;name q;");
         Kit.due("5 none", x.libraries(), 0);
+        x.undo();
+        Kit.due("5 of the text before", x.libraries(), 1);
+    }
+
+    private static void promise6() {
+        Kit.due("6 of a new object", new LinkElection().names(), 0);
+        LinkElection x = Kit.made(TEXT);
+        Kit.due("6 of a text", x.names(), 3);
+        x.withdraw(0, 0);
+        x.withdraw(1, 0);
+        Kit.due("6 one is not offered", x.names(), 3);
+        Kit.load(x, "link;name q;name");
+        Kit.due("6 behind an error", x.names(), 3);
+        Kit.load(x, "link;name q;library a 1;library b 1;");
+        Kit.due("6 of the next text", x.names(), 1);
+        Kit.load(x, "link;library a 1;");
         Kit.due("6 none", x.names(), 0);
+        x.undo();
+        Kit.due("6 of the text before", x.names(), 1);
+    }
+
+    private static void promise7() {
+        Kit.due("7 of a new object", new LinkElection().share(), 50);
+        LinkElection x = Kit.made(TEXT);
+        Kit.due("7 not told", x.share(), 50);
+        x.setShare(100);
+        Kit.due("7 set", x.share(), 100);
+        Kit.thrown(() -> x.setShare(101));
+        Kit.due("7 behind a refused one", x.share(), 100);
+        Kit.load(x, "link;share 7;share 8;");
+        Kit.due("7 behind an error", x.share(), 100);
+        Kit.load(x, "link;share 0;");
+        Kit.due("7 told", x.share(), 0);
+        x.undo();
+        Kit.due("7 the one before", x.share(), 100);
     }
 
     private static void promise8() {
@@ -213,45 +251,69 @@ public final class QueryTests {
         Kit.due("16 the first library", x.minority(0), 1);
     }
 
-    private static void promise17And18() {
-        LinkElection x = Kit.made(TEXT + "share 45;");
+    private static void promise17() {
+        ways(CALL);
+        longestWays(CALL);
+        LinkElection x = Kit.made(TEXT);
+        long before = x.checksum();
+        Kit.due("17 call", x.call(0, 1), 1);
+        Kit.due("17 the same call again", x.call(0, 1), 1);
+        Kit.due("17 nothing changes", x.checksum(), before);
+        Kit.due("17 it is no change", x.undo(), 0);
+    }
+
+    private static void promise18() {
+        ways(STEPS);
+        longestWays(STEPS);
+        LinkElection x = Kit.made(TEXT);
         Kit.due("18 steps without a call before it", x.steps(0, 1), 2);
-        calls(x, 0, 0, 1, 1);
-        calls(x, 1, 0, 2, 1);
-        calls(x, 0, 1, 1, 2);
-        calls(x, 1, 1, 1, 2);
-        calls(x, 3, 2, -1, 0);
+        x.call(0, 0);
+        Kit.due("18 steps behind another call", x.steps(0, 1), 2);
+        Kit.due("18 it is no change", x.undo(), 0);
+    }
+
+    /** The same ways for both promises, each of which looks at its own answers alone. */
+    private static void ways(int promise) {
+        LinkElection x = Kit.made(TEXT + "share 45;");
+        goes(promise, x, 0, 0, 1, 1);
+        goes(promise, x, 1, 0, 2, 1);
+        goes(promise, x, 0, 1, 1, 2);
+        goes(promise, x, 1, 1, 1, 2);
+        goes(promise, x, 3, 2, -1, 0);
         x.unload(1);
-        calls(x, 1, 0, -1, 0);
+        goes(promise, x, 1, 0, -1, 0);
         x.offerForward(0, 1, 2);
-        calls(x, 0, 1, -1, 1);
+        goes(promise, x, 0, 1, -1, 1);
         x.offerForward(0, 1, 1);
-        calls(x, 0, 1, -2, 1);
-        calls(x, 3, 1, -2, 2);
+        goes(promise, x, 0, 1, -2, 1);
+        goes(promise, x, 3, 1, -2, 2);
         x.unload(0);
         x.offerForward(2, 1, 0);
         x.offerForward(2, 0, 1);
-        calls(x, 2, 1, -2, 2);
-        calls(x, 3, 0, -2, 3);
+        goes(promise, x, 2, 1, -2, 2);
+        goes(promise, x, 3, 0, -2, 3);
         x.offerValue(2, 0, 0);
-        calls(x, 3, 1, 0, 2);
+        goes(promise, x, 3, 1, 0, 2);
         // The library whose definition it was calls on: b's y goes to b's x, a's y to a's x.
         x = Kit.made("link;name x;name y;library a 9;library b 1 keeps;library c 0;offer a x 1;offer b x 2;"
             + "offer a y to x;offer b y to x;share 0;prefer c b;");
-        calls(x, 1, 1, 2, 2);
-        calls(x, 2, 1, 1, 2);
+        goes(promise, x, 1, 1, 2, 2);
+        goes(promise, x, 2, 1, 1, 2);
         x.setKeeps(2, true);
-        calls(x, 2, 1, 2, 2);
+        goes(promise, x, 2, 1, 2, 2);
     }
 
-    private static void calls(LinkElection x, int library, int name, int result, int steps) {
-        Kit.due("17 call(" + library + ", " + name + ")", x.call(library, name), result);
-        Kit.due("18 steps(" + library + ", " + name + ")", x.steps(library, name), steps);
-        Kit.due("17 call(" + library + ", " + name + ") again", x.call(library, name), result);
+    private static void goes(int promise, LinkElection x, int library, int name, int result, int steps) {
+        String pair = "(" + library + ", " + name + ")";
+        if (promise == CALL) {
+            Kit.due("17 call" + pair, x.call(library, name), result);
+        } else {
+            Kit.due("18 steps" + pair, x.steps(library, name), steps);
+        }
     }
 
-    /** Twelve names in a ring, each one forwarded by its only candidate. */
-    private static void promise17And18Longest() {
+    /** Twelve names, each one forwarded to the next by its only candidate, until they are a ring. */
+    private static void longestWays(int promise) {
         StringBuilder text = new StringBuilder("link;library s 0;");
         for (int i = 0; i < 12; i++) {
             text.append("name ").append((char) ('a' + i)).append(';');
@@ -264,13 +326,13 @@ public final class QueryTests {
                 .append((char) ('b' + i)).append(';');
         }
         LinkElection x = Kit.made(text.toString());
-        calls(x, 0, 0, -1, 11);
+        goes(promise, x, 0, 0, -1, 11);
         x.offerValue(5, 11, 77);
-        calls(x, 0, 0, 77, 12);
+        goes(promise, x, 0, 0, 77, 12);
         x.offerForward(5, 11, 0);
-        calls(x, 0, 0, -2, 13);
-        calls(x, 6, 0, -2, 13);
-        calls(x, 5, 0, -2, 12);
+        goes(promise, x, 0, 0, -2, 13);
+        goes(promise, x, 6, 0, -2, 13);
+        goes(promise, x, 5, 0, -2, 12);
     }
 
     private static void promise19() {
